@@ -1,0 +1,107 @@
+import java.util.Arrays;
+
+/** Counts the answers that are not as due; each test makes one and ends with finish(). */
+final class Checks {
+    private final String name;
+    private int made = 0;
+    private int wrong = 0;
+
+    Checks(String name) {
+        this.name = name;
+    }
+
+    void due(String call, long got, long want) {
+        made++;
+        if (got != want) {
+            wrong++;
+            System.out.println(name + ": " + call + " answered " + got + ", due is " + want);
+        }
+    }
+
+    void unchanged(String call, SignalKernel x, long[] before) {
+        due(call + " left every readable value as it was", Arrays.equals(before, view(x)) ? 1 : 0, 1);
+    }
+
+    /** Checks the four fields of a stored event. */
+    void event(SignalKernel x, int index, int kind, int pid, int value, int serial) {
+        due("logField(" + index + ", 0)", x.logField(index, 0), kind);
+        due("logField(" + index + ", 1)", x.logField(index, 1), pid);
+        due("logField(" + index + ", 2)", x.logField(index, 2), value);
+        due("logField(" + index + ", 3)", x.logField(index, 3), serial);
+    }
+
+    /** Checks the event logged last, while the log still has room. */
+    void lastEvent(SignalKernel x, int kind, int pid, int value, int serial) {
+        event(x, x.logTotal() - 1, kind, pid, value, serial);
+    }
+
+    void registers(SignalKernel x, int pid, int pc, int a, int b) {
+        due("reg(" + pid + ", R_PC)", x.reg(pid, SignalKernel.R_PC), pc);
+        due("reg(" + pid + ", R_A)", x.reg(pid, SignalKernel.R_A), a);
+        due("reg(" + pid + ", R_B)", x.reg(pid, SignalKernel.R_B), b);
+    }
+
+    void frame(SignalKernel x, int level, int pc, int a, int b, int mask) {
+        due("frame(0, " + level + ", 0)", x.frame(0, level, 0), pc);
+        due("frame(0, " + level + ", 1)", x.frame(0, level, 1), a);
+        due("frame(0, " + level + ", 2)", x.frame(0, level, 2), b);
+        due("frame(0, " + level + ", 3)", x.frame(0, level, 3), mask);
+    }
+
+    void finish() {
+        System.out.println(name + ": " + (wrong == 0 ? made + " answers are as due" : wrong + " of " + made + " answers are not as due"));
+        if (wrong != 0) {
+            System.exit(1);
+        }
+    }
+
+    /** Pokes (op, arg) pairs into the cells from addr on. */
+    static void load(SignalKernel x, int pid, int addr, int... code) {
+        for (int i = 0; i + 1 < code.length; i += 2) {
+            if (x.poke(pid, addr + i / 2, code[i], code[i + 1]) != 0) {
+                throw new IllegalArgumentException("a test's own code does not fit");
+            }
+        }
+    }
+
+    /** A kernel whose process 0 loops on its first cell. */
+    static SignalKernel spinning(int procs, int maxDepth) {
+        SignalKernel x = new SignalKernel(procs, maxDepth);
+        for (int pid = 0; pid < procs; pid++) {
+            load(x, pid, 0, SignalKernel.OP_JMP, 0);
+        }
+        return x;
+    }
+
+    /** A kernel of one process with this code at address 0. */
+    static SignalKernel holding(int... code) {
+        SignalKernel x = new SignalKernel(1, 2);
+        load(x, 0, 0, code);
+        return x;
+    }
+
+    /** Every value that the public face lets one read. */
+    static long[] view(SignalKernel x) {
+        long[] seen = new long[1100];
+        int n = 0;
+        for (int pid = 0; pid < 4; pid++) {
+            seen[n++] = x.state(pid);
+            for (int which = 0; which < 10; which++) {
+                seen[n++] = x.reg(pid, which);
+            }
+            for (int i = 0; i < 16; i++) {
+                seen[n++] = x.frame(pid, i / 4, i % 4);
+                seen[n++] = x.queued(pid, i / 2, i % 2);
+                seen[n++] = x.pendingSerial(pid, i);
+            }
+            for (int i = 2; i < 64; i++) {
+                seen[n++] = x.getAction(pid, i / 2, i % 2);
+            }
+        }
+        seen[n++] = x.logTotal();
+        for (int i = 0; i < 512; i++) {
+            seen[n++] = x.logField(i / 4, i % 4);
+        }
+        return seen;
+    }
+}
