@@ -143,21 +143,26 @@ public final class Promise04Test {
     }
 
     private static void stopDropsCont() {
-        int[] stops = {12, 15};
-        for (int stop : stops) {
-            SignalKernel x = Checks.spinning(2, 1);
-            x.send(0, 14);
-            x.send(1, 14);
-            x.send(0, 13);
-            checks.due("send(0, " + stop + ")", x.send(0, stop), 4);
-            checks.due("14 is dropped", x.reg(0, SignalKernel.R_PENDING), 1 << 13 | 1 << stop);
-            checks.due("with its serial", x.pendingSerial(0, 14), 0);
-            checks.due("13 is kept", x.pendingSerial(0, 13), 3);
-            checks.due("the other's 14 is kept", x.pendingSerial(1, 14), 2);
-            checks.due("the other stop joins it", x.send(0, 27 - stop), 5);
-            checks.due("both stops are pending", x.reg(0, SignalKernel.R_PENDING), 1 << 13 | 1 << 12 | 1 << 15);
-            checks.due("nothing was logged", x.logTotal(), 0);
+        for (int pid = 0; pid < 4; pid++) {
+            stopDropsContOf(pid, 12);
+            stopDropsContOf(pid, 15);
         }
+    }
+
+    private static void stopDropsContOf(int pid, int stop) {
+        SignalKernel x = Checks.spinning(4, 1);
+        int other = (pid + 1) % 4;
+        x.send(pid, 14);
+        x.send(other, 14);
+        x.send(pid, 13);
+        checks.due("send(" + pid + ", " + stop + ")", x.send(pid, stop), 4);
+        checks.due("14 is dropped", x.reg(pid, SignalKernel.R_PENDING), 1 << 13 | 1 << stop);
+        checks.due("with its serial", x.pendingSerial(pid, 14), 0);
+        checks.due("13 is kept", x.pendingSerial(pid, 13), 3);
+        checks.due("the other's 14 is kept", x.pendingSerial(other, 14), 2);
+        checks.due("the other stop joins it", x.send(pid, 27 - stop), 5);
+        checks.due("both stops are pending", x.reg(pid, SignalKernel.R_PENDING), 1 << 13 | 1 << 12 | 1 << 15);
+        checks.due("nothing was logged", x.logTotal(), 0);
     }
 
     private static void contDropsStops() {

@@ -8,15 +8,18 @@ public final class Promise05DeliveryTest {
         ignored();
         lowestStandardFirst();
         earliestEntryNext();
+        fullQueueOfTheLastProcess();
         blockedOnesAreSkipped();
         oneDeliveryAStep();
         handlerEntry();
         deferring();
         resetting();
         interruptedSleep();
+        interruptedAtTheLastMoment();
         interruptedSleepBesideALostCell();
         nesting();
         tooDeep();
+        tooDeepInTheLastProcess();
         stopIsNeverBlocked();
         checks.finish();
     }
@@ -129,6 +132,19 @@ public final class Promise05DeliveryTest {
         }
         checks.due("room again", x.send(0, 30), 9);
         checks.due("queued(0, 0, 0)", x.queued(0, 0, 0), 30);
+    }
+
+    private static void fullQueueOfTheLastProcess() {
+        SignalKernel x = Checks.spinning(4, 1);
+        for (int i = 0; i < 8; i++) {
+            x.setAction(3, 24 + i, SignalKernel.H_IGN, 0);
+            x.send(3, 24 + i);
+        }
+        x.run(8);
+        for (int i = 0; i < 8; i++) {
+            checks.event(x, i, SignalKernel.EV_IGNORE, 3, 24 + i, i + 1);
+        }
+        checks.due("reg(3, R_QUEUED)", x.reg(3, SignalKernel.R_QUEUED), 0);
     }
 
     private static SignalKernel masking(int mask) {
@@ -284,6 +300,17 @@ public final class Promise05DeliveryTest {
         }
     }
 
+    private static void interruptedAtTheLastMoment() {
+        SignalKernel x = Checks.holding(SignalKernel.OP_SLEEP, 2);
+        x.setAction(0, 1, HANDLER, 0);
+        x.run(2);
+        checks.due("reg(0, R_SLEEP)", x.reg(0, SignalKernel.R_SLEEP), 1);
+        x.send(0, 1);
+        x.run(1);
+        checks.frame(x, 0, 1, SignalKernel.EINTR, 0, 0);
+        checks.due("reg(0, R_SLEEP)", x.reg(0, SignalKernel.R_SLEEP), 0);
+    }
+
     private static void interruptedSleepBesideALostCell() {
         SignalKernel x = new SignalKernel(1, 1);
         Checks.load(x, 0, 0, SignalKernel.OP_JMP, 31);
@@ -352,6 +379,21 @@ public final class Promise05DeliveryTest {
         checks.due("the handler is not reset", x.getAction(0, 25, 0), HANDLER);
         checks.frame(x, 0, 0, 0, 0, 0);
         checks.frame(x, 1, HANDLER, 5, 1, 1 << 5);
+    }
+
+    private static void tooDeepInTheLastProcess() {
+        SignalKernel x = Checks.spinning(4, 4);
+        x.setAction(3, 16, 0, SignalKernel.SA_NODEFER);
+        for (int i = 0; i < 5; i++) {
+            x.send(3, 16);
+        }
+        x.run(4);
+        checks.due("depth", x.reg(3, SignalKernel.R_DEPTH), 4);
+        checks.due("the newest frame", x.frame(3, 3, 2), 3);
+        x.run(1);
+        checks.due("state(3)", x.state(3), SignalKernel.KILLED);
+        checks.event(x, 4, SignalKernel.EV_TERM, 3, 11, 5);
+        checks.due("the others run on", x.run(1), 3);
     }
 
     private static void stopIsNeverBlocked() {

@@ -13,6 +13,7 @@ public final class Promise05InstructionTest {
         mask();
         maskRefusals();
         sigact();
+        sigactInTheLastProcess();
         sigactRefusals();
         sigret();
         out();
@@ -207,6 +208,16 @@ public final class Promise05InstructionTest {
             checks.due("handler of " + k, x.getAction(0, k, 0), 0);
             checks.due("logTotal()", x.logTotal(), 0);
             checks.due("no serial was issued", x.send(0, 1), 1);
+        }
+    }
+
+    private static void sigactInTheLastProcess() {
+        SignalKernel x = Checks.spinning(4, 1);
+        Checks.load(x, 3, 0, SignalKernel.OP_LDA, 6, SignalKernel.OP_LDB, 3, SignalKernel.OP_SIGACT, 31);
+        x.run(3);
+        for (int pid = 0; pid < 4; pid++) {
+            checks.due("getAction(" + pid + ", 31, 0)", x.getAction(pid, 31, 0), pid == 3 ? 6 : SignalKernel.H_DFL);
+            checks.due("getAction(" + pid + ", 31, 1)", x.getAction(pid, 31, 1), pid == 3 ? 3 : 0);
         }
     }
 

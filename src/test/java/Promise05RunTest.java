@@ -9,6 +9,7 @@ public final class Promise05RunTest {
         sleeping();
         sleepAndIgnoredSignals();
         badPc();
+        badPcOfTheLastProcess();
         deliveryComesBeforeABadPc();
         deadAndStoppedDoNothing();
         checks.finish();
@@ -148,6 +149,15 @@ public final class Promise05RunTest {
         x.run(3);
         checks.due("running off the end", x.state(0), SignalKernel.KILLED);
         checks.registers(x, 0, 32, 6, 0);
+    }
+
+    private static void badPcOfTheLastProcess() {
+        SignalKernel x = Checks.spinning(4, 1);
+        x.poke(3, 0, SignalKernel.OP_JMP, 32);
+        x.run(2);
+        checks.due("state(3)", x.state(3), SignalKernel.KILLED);
+        checks.event(x, 0, SignalKernel.EV_TERM, 3, 11, 0);
+        checks.due("the others run on", x.run(1), 3);
     }
 
     private static void deliveryComesBeforeABadPc() {
