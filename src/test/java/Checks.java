@@ -1,8 +1,13 @@
 import java.util.Arrays;
+import java.util.function.Supplier;
+import java.util.function.ToIntFunction;
 
 /** Counts the answers that are not as due; each test makes one and ends with finish(). */
 final class Checks {
+    private static final int ROUNDS_TO_PASS_EVERY_CELL = 36;
+
     private final String name;
+    private String about = "";
     private int made = 0;
     private int wrong = 0;
 
@@ -10,12 +15,36 @@ final class Checks {
         this.name = name;
     }
 
+    /** Names the document's sentence that the checks from here on are about. */
+    void sentence(String words) {
+        about = " \"" + words + "\"";
+    }
+
     void due(String call, long got, long want) {
         made++;
         if (got != want) {
             wrong++;
-            System.out.println(name + ": " + call + " answered " + got + ", due is " + want);
+            System.out.println(name + about + ": " + call + " answered " + got + ", due is " + want);
         }
+    }
+
+    /** Checks a call's answer, and that no later call shows that it was made. */
+    void refused(String call, Supplier<SignalKernel> scene, ToIntFunction<SignalKernel> refusal, int want) {
+        SignalKernel x = scene.get();
+        due(call, refusal.applyAsInt(x), want);
+        alike(call, x, scene.get());
+    }
+
+    /** Checks that two kernels show the same now, in each round of a long run, and in their next serials. */
+    void alike(String call, SignalKernel x, SignalKernel twin) {
+        boolean same = Arrays.equals(view(x), view(twin));
+        for (int round = 0; round < ROUNDS_TO_PASS_EVERY_CELL && same; round++) {
+            same = x.run(1) == twin.run(1) && Arrays.equals(view(x), view(twin));
+        }
+        for (int pid = 0; pid < 4 && same; pid++) {
+            same = x.send(pid, 16) == twin.send(pid, 16) && Arrays.equals(view(x), view(twin));
+        }
+        due(call + " left all that later calls show as it was", same ? 1 : 0, 1);
     }
 
     void unchanged(String call, SignalKernel x, long[] before) {
