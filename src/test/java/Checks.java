@@ -5,6 +5,7 @@ import java.util.function.ToIntFunction;
 /** Counts the answers that are not as due; each test makes one and ends with finish(). */
 final class Checks {
     private static final int ROUNDS_TO_PASS_EVERY_CELL = 36;
+    private static final int VALUES_PER_PROCESS = 121;
 
     private final String name;
     private String about = "";
@@ -71,10 +72,25 @@ final class Checks {
     }
 
     void frame(SignalKernel x, int level, int pc, int a, int b, int mask) {
-        due("frame(0, " + level + ", 0)", x.frame(0, level, 0), pc);
-        due("frame(0, " + level + ", 1)", x.frame(0, level, 1), a);
-        due("frame(0, " + level + ", 2)", x.frame(0, level, 2), b);
-        due("frame(0, " + level + ", 3)", x.frame(0, level, 3), mask);
+        frameOf(x, 0, level, pc, a, b, mask);
+    }
+
+    void frameOf(SignalKernel x, int pid, int level, int pc, int a, int b, int mask) {
+        int[] saved = {pc, a, b, mask};
+        for (int field = 0; field < 4; field++) {
+            due("frame(" + pid + ", " + level + ", " + field + ")", x.frame(pid, level, field), saved[field]);
+        }
+    }
+
+    /** Checks that the processes but this one show the same in both kernels. */
+    void othersAlike(String call, int pid, SignalKernel x, SignalKernel y) {
+        long[] seen = view(x);
+        long[] wanted = view(y);
+        for (int i = 0; i < 4 * VALUES_PER_PROCESS; i++) {
+            if (i / VALUES_PER_PROCESS != pid) {
+                due(call + ": value " + i % VALUES_PER_PROCESS + " of process " + i / VALUES_PER_PROCESS, seen[i], wanted[i]);
+            }
+        }
     }
 
     void finish() {

@@ -239,7 +239,10 @@ public final class Edges01Test implements Numbers {
             for (int i = -1; i <= 128; i++) {
                 checks.event(x, i, 0, 0, 0, 0);
             }
-            checks.due("send(" + pid + ", 1)", x.send(pid, 1), 1);
+            checks.due("send(" + pid + ", 9)", x.send(pid, 9), 1);
+            checks.due("logTotal()", x.logTotal(), 1);
+            checks.event(x, 0, EV_TERM, pid, 9, 1);
+            checks.event(x, 1, 0, 0, 0, 0);
         }
     }
 }

@@ -157,18 +157,24 @@ public final class Edges03Test implements Numbers {
 
     private static void nothingElseChanges() {
         checks.sentence("Nothing else changes: no serial is issued and nothing is logged.");
-        for (int pid = 0; pid < 3; pid++) {
-            for (int sig = 1; sig <= 31; sig++) {
-                if (sig == 9 || sig == 15) {
-                    continue;
+        int[] handlers = {H_IGN, H_DFL, 30};
+        for (int handler : handlers) {
+            for (int pid = 0; pid < 3; pid++) {
+                for (int sig = 1; sig <= 31; sig++) {
+                    if (sig != 9 && sig != 15) {
+                        thereAndBack(pid, sig, handler);
+                    }
                 }
-                SignalKernel x = Scenes.busy(false);
-                int flags = x.getAction(pid, sig, 1);
-                int old = x.setAction(pid, sig, 30, 7);
-                checks.due("the disposition in between", x.getAction(pid, sig, 0), 30);
-                checks.due("setAction back", x.setAction(pid, sig, old, flags), 30);
-                checks.alike("setAction(" + pid + ", " + sig + ", ..) there and back", x, Scenes.busy(false));
             }
         }
+    }
+
+    private static void thereAndBack(int pid, int sig, int handler) {
+        SignalKernel x = Scenes.busy(false);
+        int flags = x.getAction(pid, sig, 1);
+        int old = x.setAction(pid, sig, handler, 7);
+        checks.due("the disposition in between", x.getAction(pid, sig, 0), handler);
+        checks.due("setAction back", x.setAction(pid, sig, old, flags), handler);
+        checks.alike("setAction(" + pid + ", " + sig + ", " + handler + ", 7) and back", x, Scenes.busy(false));
     }
 }

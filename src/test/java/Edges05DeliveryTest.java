@@ -91,42 +91,58 @@ public final class Edges05DeliveryTest implements Numbers {
         checks.due("the lowest that is not blocked", x.logField(0, 2), 3);
     }
 
-    /** Process 0 of one ignores every real-time signal and blocks those of the mask. */
-    private static SignalKernel ignoring(int mask) {
-        SignalKernel x = Scenes.masked(mask);
+    /** One of four ignores every real-time signal and blocks those of the mask; the others' queues are full. */
+    private static SignalKernel ignoring(int pid, int mask) {
+        SignalKernel x = Checks.spinning(4, 1);
+        for (int other = 0; other < 4; other++) {
+            Checks.load(x, other, 0, LDA, other == pid ? mask : -1, MASK, 2, JMP, 2);
+        }
+        x.run(3);
         for (int sig = 16; sig <= 31; sig++) {
-            x.setAction(0, sig, H_IGN, 0);
+            x.setAction(pid, sig, H_IGN, 0);
+        }
+        for (int i = 0; i < 32; i++) {
+            if (i % 4 != pid) {
+                x.send(i % 4, 16 + i / 2);
+            }
         }
         return x;
     }
 
     private static void earliestEntry() {
         checks.sentence("If there is none, it is the earliest deliverable queue entry, and later entries move forward.");
-        for (int entries = 1; entries <= 8; entries++) {
-            for (int open = 0; open <= entries; open++) {
+        for (int pid = 0; pid < 4; pid++) {
+            for (int entries = 1; entries <= 8; entries++) {
                 // All entries but the one at this index are blocked; at the last index of the loop, all are.
-                SignalKernel x = ignoring(1 << 31);
-                for (int i = 0; i < entries; i++) {
-                    x.send(0, i == open ? 16 : 31);
-                }
-                boolean any = open < entries;
-                x.run(2);
-                checks.due("deliveries", x.logTotal(), any ? 1 : 0);
-                checks.due("the serial taken", x.logField(0, 3), any ? open + 1 : 0);
-                int left = any ? entries - 1 : entries;
-                checks.due("R_QUEUED", x.reg(0, R_QUEUED), left);
-                for (int i = 0; i < 8; i++) {
-                    checks.due("queued(0, " + i + ", 0)", x.queued(0, i, 0), i < left ? 31 : 0);
-                    checks.due("queued(0, " + i + ", 1)", x.queued(0, i, 1), i >= left ? 0 : i < open ? i + 1 : i + 2);
+                for (int open = 0; open <= entries; open++) {
+                    oneOpenEntry(pid, entries, open);
                 }
             }
         }
-        SignalKernel x = ignoring(1 << 1);
-        x.send(0, 31);
-        x.send(0, 16);
-        x.send(0, 1);
+        SignalKernel x = ignoring(2, 1 << 1);
+        x.send(2, 31);
+        x.send(2, 16);
+        x.send(2, 1);
         x.run(1);
         checks.due("a blocked standard signal gives way, and the earlier entry is taken, not the lower", x.logField(0, 2), 31);
+    }
+
+    private static void oneOpenEntry(int pid, int entries, int open) {
+        SignalKernel x = ignoring(pid, 1 << 31);
+        for (int i = 0; i < entries; i++) {
+            checks.due("a serial after the others' 24", x.send(pid, i == open ? 16 : 31), 25 + i);
+        }
+        boolean any = open < entries;
+        x.run(2);
+        checks.due("deliveries", x.logTotal(), any ? 1 : 0);
+        checks.due("the serial taken", x.logField(0, 3), any ? 25 + open : 0);
+        int left = any ? entries - 1 : entries;
+        checks.due("R_QUEUED", x.reg(pid, R_QUEUED), left);
+        for (int i = 0; i < 8; i++) {
+            checks.due("queued(" + pid + ", " + i + ", 0)", x.queued(pid, i, 0), i < left ? 31 : 0);
+            checks.due("queued(" + pid + ", " + i + ", 1)", x.queued(pid, i, 1), i >= left ? 0 : i < open ? 25 + i : 26 + i);
+        }
+        checks.othersAlike("a delivery from a queue", pid, x, ignoring(pid, 1 << 31));
     }
 
     private static void removedFirst() {
@@ -328,22 +344,29 @@ public final class Edges05DeliveryTest implements Numbers {
 
     private static void interruptedSleep() {
         checks.sentence("In that case, if (f & SA_RESTART) == 0, the saved pc is PC+1 (int arithmetic) and the saved A is EINTR.");
-        for (int flags = 0; flags <= 7; flags++) {
-            boolean restart = (flags & RESTART) != 0;
-            for (int addr = 0; addr <= 31; addr += 31) {
-                SignalKernel x = asleepAt(addr, 4, flags);
-                x.send(0, 3);
-                x.run(1);
-                checks.frame(x, 0, restart ? addr : addr + 1, restart ? 5 : EINTR, 6, 0);
-                x.run(1);
-                checks.registers(x, 0, restart ? addr : addr + 1, restart ? 5 : EINTR, 6);
-                x.run(1);
-                checks.due("flags " + flags + ": sleep again", x.reg(0, R_SLEEP), restart ? 4 : 0);
-                checks.due("flags " + flags + ": state(0) after the sleep in cell " + addr, x.state(0),
-                    restart ? SLEEPING : addr == 31 ? KILLED : EXITED);
+        int[] lengths = {1, 2, GREATEST};
+        for (int k : lengths) {
+            for (int flags = 0; flags <= 7; flags++) {
+                interruptedIn(0, k, flags);
+                interruptedIn(31, k, flags);
             }
         }
         notInterruptedWhenAwake();
+    }
+
+    private static void interruptedIn(int addr, int k, int flags) {
+        boolean restart = (flags & RESTART) != 0;
+        SignalKernel x = asleepAt(addr, k, flags);
+        checks.due("R_SLEEP before", x.reg(0, R_SLEEP), k);
+        x.send(0, 3);
+        x.run(1);
+        checks.frame(x, 0, restart ? addr : addr + 1, restart ? 5 : EINTR, 6, 0);
+        x.run(1);
+        checks.registers(x, 0, restart ? addr : addr + 1, restart ? 5 : EINTR, 6);
+        x.run(1);
+        checks.due("flags " + flags + ": sleep again", x.reg(0, R_SLEEP), restart ? k : 0);
+        checks.due("flags " + flags + ": state(0) after the sleep in cell " + addr, x.state(0),
+            restart ? SLEEPING : addr == 31 ? KILLED : EXITED);
     }
 
     private static void notInterruptedWhenAwake() {
@@ -363,20 +386,15 @@ public final class Edges05DeliveryTest implements Numbers {
 
     private static void pushedFrame() {
         checks.sentence("Push frame (saved pc, saved A, B, MASK) at index depth.");
-        SignalKernel x = new SignalKernel(1, 4);
-        for (int level = 0; level < 4; level++) {
-            Checks.load(x, 0, 4 * level, LDA, 10 + level, LDB, 20 + level, JMP, 4 * level + 2);
-            x.setAction(0, 28 + level, 4 * level + 4, 0);
-        }
-        for (int depth = 0; depth < 4; depth++) {
-            x.run(2);
-            x.send(0, 28 + depth);
-            x.run(1);
-            for (int level = 0; level < 4; level++) {
-                if (level <= depth) {
-                    checks.frame(x, level, 4 * level + 2, 10 + level, 20 + level, ((1 << level) - 1) << 28);
-                } else {
-                    checks.frame(x, level, 0, 0, 0, 0);
+        for (int depth = 0; depth <= 4; depth++) {
+            SignalKernel x = Scenes.nested(depth);
+            for (int pid = 0; pid < 4; pid++) {
+                for (int level = 0; level < 4; level++) {
+                    if (level < depth) {
+                        checks.frameOf(x, pid, level, 4 * level + 2, 40 * pid + level, -40 * pid - level, ((1 << level) - 1) << 28);
+                    } else {
+                        checks.frameOf(x, pid, level, 0, 0, 0, 0);
+                    }
                 }
             }
         }

@@ -175,8 +175,9 @@ public final class Edges05InstructionTest implements Numbers {
         }
         SignalKernel x = Scenes.after(2, LDA, -1, MASK, 2, KILL, 16, JMP, 2);
         for (int i = 1; i <= 10; i++) {
-            x.run(2);
-            checks.due("KILL 16 number " + i, x.reg(0, R_A), i <= 8 ? i : EAGAIN);
+            x.run(1);
+            checks.registers(x, 0, 3, i <= 8 ? i : EAGAIN, 0);
+            x.run(1);
         }
     }
 
@@ -340,24 +341,18 @@ public final class Edges05InstructionTest implements Numbers {
     private static void sigret() {
         checks.sentence("Otherwise depth -= 1 and the frame at index depth is popped: PC, A, B and MASK take its saved values, SP += 4, and there is no further PC += 1.");
         for (int most = 1; most <= 4; most++) {
-            SignalKernel x = new SignalKernel(1, 4);
-            for (int level = 0; level < 4; level++) {
-                Checks.load(x, 0, 4 * level, LDA, 10 + level, LDB, 20 + level, JMP, 4 * level + 2);
-                x.setAction(0, 28 + level, 4 * level + 4, 0);
-            }
-            for (int level = 0; level < most; level++) {
-                x.run(2);
-                x.send(0, 28 + level);
-                x.run(1);
-            }
-            x.poke(0, 4 * most, SIGRET, 99);
+            SignalKernel x = Scenes.nested(most);
             for (int level = most - 1; level >= 0; level--) {
+                for (int pid = 0; pid < 4; pid++) {
+                    x.poke(pid, 4 * level + 6, SIGRET, 99);
+                }
                 x.run(1);
-                checks.registers(x, 0, 4 * level + 2, 10 + level, 20 + level);
-                checks.due("R_MASK", x.reg(0, R_MASK), ((1 << level) - 1) << 28);
-                checks.due("R_DEPTH", x.reg(0, R_DEPTH), level);
-                checks.due("R_SP", x.reg(0, R_SP), 64 - 4 * level);
-                x.poke(0, 4 * level + 2, SIGRET, 99);
+                for (int pid = 0; pid < 4; pid++) {
+                    checks.registers(x, pid, 4 * level + 2, 40 * pid + level, -40 * pid - level);
+                    checks.due("R_MASK", x.reg(pid, R_MASK), ((1 << level) - 1) << 28);
+                    checks.due("R_DEPTH", x.reg(pid, R_DEPTH), level);
+                    checks.due("R_SP", x.reg(pid, R_SP), 64 - 4 * level);
+                }
             }
         }
     }
@@ -378,9 +373,9 @@ public final class Edges05InstructionTest implements Numbers {
         checks.sentence("**12 SELF:** B = p.");
         for (int pid = 0; pid < 4; pid++) {
             SignalKernel x = new SignalKernel(4, 1);
-            Checks.load(x, pid, 0, LDB, 9, SELF, 7);
-            x.run(2);
-            checks.registers(x, pid, 2, 0, pid);
+            Checks.load(x, pid, 0, LDA, 5, LDB, 9, SELF, 7);
+            x.run(3);
+            checks.registers(x, pid, 3, 5, pid);
         }
     }
 
@@ -405,6 +400,23 @@ public final class Edges05InstructionTest implements Numbers {
         }
         x.run(1);
         checks.registers(x, 0, 3, 0xff0001fe, 0);
+        ownPending();
+    }
+
+    private static void ownPending() {
+        SignalKernel x = Checks.spinning(4, 1);
+        for (int pid = 0; pid < 4; pid++) {
+            Checks.load(x, pid, 0, LDA, -1, MASK, 2, PENDING, 0);
+        }
+        x.run(2);
+        for (int i = 0; i < 32; i++) {
+            x.send(i % 4, 16 + i / 8 + 4 * (i % 4));
+            x.send(i % 4, 1 + i % 4);
+        }
+        x.run(1);
+        for (int pid = 0; pid < 4; pid++) {
+            checks.due("A of " + pid, x.reg(pid, R_A), 0xf << 16 + 4 * pid | 2 << pid);
+        }
     }
 
     private static void swap() {
@@ -442,21 +454,13 @@ public final class Edges05InstructionTest implements Numbers {
 
     private static void onlyTheProcessChanges() {
         checks.sentence("A step changes only process p, the serial counter and the log.");
-        int perProcess = 121;
+        int[] args = {0, 1, 2, 16, 32};
         for (int op = 0; op <= 15; op++) {
-            int[] args = {0, 1, 2, 16, 32};
             for (int k : args) {
-                if (op == KILL && k > 0 && k < 32) {
-                    continue;
-                }
-                SignalKernel x = beside(op, k);
-                long[] before = Checks.view(x);
-                x.run(1);
-                long[] after = Checks.view(x);
-                for (int i = 0; i < 4 * perProcess; i++) {
-                    if (i / perProcess != 2) {
-                        checks.due("op " + op + ", arg " + k + ": value " + i % perProcess + " of process " + i / perProcess, after[i], before[i]);
-                    }
+                if (op != KILL || k == 0 || k == 32) {
+                    SignalKernel x = beside(op, k);
+                    x.run(1);
+                    checks.othersAlike("op " + op + ", arg " + k, 2, x, beside(op, k));
                 }
             }
         }

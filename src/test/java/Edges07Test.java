@@ -13,20 +13,28 @@ public final class Edges07Test implements Numbers {
 
     private static void pendingBits() {
         checks.sentence("R_PENDING is the standard pending bits OR the bit of every signal that has an entry in the queue.");
-        SignalKernel x = Scenes.masked(-1);
-        checks.due("none", x.reg(0, R_PENDING), 0);
+        for (int pid = 0; pid < 4; pid++) {
+            pendingPairs(pid);
+        }
+        sameSignalTwice();
+    }
+
+    private static void pendingPairs(int pid) {
+        checks.due("none", Checks.spinning(4, 1).reg(pid, R_PENDING), 0);
         for (int first = 1; first <= 31; first++) {
             for (int second = first; second <= 31; second++) {
                 if (first == 9 || second == 9 || first == 12 && second == 14 || first == 14 && second == 15) {
                     continue;
                 }
-                x = Checks.spinning(1, 1);
-                x.send(0, first);
-                x.send(0, second);
-                checks.due("R_PENDING with " + first + " and " + second, x.reg(0, R_PENDING), 1 << first | 1 << second);
+                SignalKernel x = Checks.spinning(4, 1);
+                x.send(pid, first);
+                x.send(pid, second);
+                for (int of = 0; of < 4; of++) {
+                    checks.due("R_PENDING of " + of + " with " + first + " and " + second + " at " + pid, x.reg(of, R_PENDING),
+                        of == pid ? 1 << first | 1 << second : 0);
+                }
             }
         }
-        sameSignalTwice();
     }
 
     private static void sameSignalTwice() {

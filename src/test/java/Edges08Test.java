@@ -16,6 +16,8 @@ public final class Edges08Test implements Numbers {
         int pid = procs - 1;
         for (int level = 0; level <= 4; level++) {
             Checks.load(x, pid, 4 * level, LDA, 10 + level, LDB, 20 + level, JMP, 4 * level + 2);
+        }
+        for (int level = 0; level < 4; level++) {
             x.setAction(pid, 28 + level, 4 * level + 4, 0);
         }
         x.run(2);

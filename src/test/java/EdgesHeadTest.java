@@ -1,4 +1,4 @@
-import java.util.function.Supplier;
+import java.util.function.IntFunction;
 
 /** The edges that the document's head names, a test for each sentence. */
 public final class EdgesHeadTest implements Numbers {
@@ -234,9 +234,28 @@ public final class EdgesHeadTest implements Numbers {
             x.run(1);
             checks.due("serial " + i, x.send(2, 16), i);
         }
+        manySerials();
         x = Scenes.after(1, KILL, 13, KILL, 16);
         checks.due("the first, of OP_KILL", x.reg(0, R_A), 1);
         checks.due("and the next from outside", x.send(0, 14), 2);
+    }
+
+    /** As many as would not fit into fewer bits than an int has. */
+    private static void manySerials() {
+        SignalKernel x = Checks.spinning(1, 1);
+        x.setAction(0, 31, H_IGN, 0);
+        for (int i = 1; i < 70000; i += 2) {
+            checks.due("serial " + i, x.send(0, 13), i);
+            checks.due("serial " + (i + 1), x.send(0, 31), i + 1);
+            checks.due("as the pending instance's", x.pendingSerial(0, 13), i);
+            checks.due("as the entry's", x.queued(0, 0, 1), i + 1);
+            x.run(2);
+        }
+        x.setAction(0, 1, 5, 0);
+        checks.due("the next", x.send(0, 1), 70001);
+        x.run(1);
+        checks.registers(x, 0, 5, 1, 70001);
+        checks.due("logTotal()", x.logTotal(), 70001);
     }
 
     private static void loggingIssuesNoSerial() {
@@ -271,152 +290,161 @@ public final class EdgesHeadTest implements Numbers {
         }
     }
 
-    /** Process 0 of two, a handler deep and with signals held back, about to die: its next step halts. */
-    private static SignalKernel aboutToHalt() {
-        SignalKernel x = new SignalKernel(2, 1);
-        x.poke(1, 0, JMP, 0);
-        Checks.load(x, 0, 0, LDA, 7, LDB, 8, JMP, 2);
-        Checks.load(x, 0, 8, LDA, -1, MASK, 2, LDA, 5, HALT, 0);
-        x.setAction(0, 4, 8, RESTART);
-        x.run(2);
-        x.send(0, 4);
-        x.run(4);
-        for (int sig = 1; sig <= 13; sig++) {
-            if (sig != 9) {
-                x.send(0, sig);
-            }
+    /**
+     * One of four, a handler deep and with signals held back, about to die: its next step halts.
+     * The others hold the same signals back and spin.
+     */
+    private static SignalKernel aboutToHalt(int pid) {
+        SignalKernel x = new SignalKernel(4, 1);
+        for (int other = 0; other < 4; other++) {
+            Checks.load(x, other, 0, LDA, -1, MASK, 2, JMP, 2);
         }
-        for (int i = 0; i < 8; i++) {
-            x.send(0, 16 + i);
+        Checks.load(x, pid, 0, LDA, 7, LDB, 8, JMP, 2);
+        Checks.load(x, pid, 8, LDA, -1, MASK, 2, LDA, 5, HALT, 0);
+        x.setAction(pid, 4, 8, RESTART);
+        x.run(2);
+        x.send(pid, 4);
+        x.run(4);
+        for (int of = 0; of < 4; of++) {
+            for (int sig = 1; sig <= 13; sig++) {
+                if (sig != 9) {
+                    x.send(of, sig);
+                }
+            }
+            for (int i = 0; i < 8; i++) {
+                x.send(of, 16 + i);
+            }
         }
         return x;
     }
 
-    /** The same, but asleep and stopped, about to be killed. */
-    private static SignalKernel aboutToBeKilled() {
-        SignalKernel x = aboutToHalt();
-        x.poke(0, 11, SLEEP, 9);
+    /** The same, but asleep and stopped, about to be killed, and each has its 15 pending too. */
+    private static SignalKernel aboutToBeKilled(int pid) {
+        SignalKernel x = aboutToHalt(pid);
+        x.poke(pid, 11, SLEEP, 9);
         x.run(2);
-        x.send(0, 15);
+        x.send(pid, 15);
         x.run(1);
-        x.send(0, 15);
+        for (int of = 0; of < 4; of++) {
+            x.send(of, 15);
+        }
         return x;
     }
 
     /** The same, but deep already when one more handler is due. */
-    private static SignalKernel aboutToSinkTooDeep() {
-        SignalKernel x = aboutToHalt();
-        Checks.load(x, 0, 11, LDA, 1 << 7, MASK, 1);
-        x.setAction(0, 7, 8, 0);
+    private static SignalKernel aboutToSinkTooDeep(int pid) {
+        SignalKernel x = aboutToHalt(pid);
+        Checks.load(x, pid, 11, LDA, 1 << 7, MASK, 1);
+        x.setAction(pid, 7, 8, 0);
         x.run(2);
         return x;
     }
 
     /** The same, but with a default action due. */
-    private static SignalKernel aboutToBeTerminated() {
-        SignalKernel x = aboutToSinkTooDeep();
-        x.setAction(0, 7, H_DFL, 0);
+    private static SignalKernel aboutToBeTerminated(int pid) {
+        SignalKernel x = aboutToSinkTooDeep(pid);
+        x.setAction(pid, 7, H_DFL, 0);
         return x;
     }
 
     /** The same, but with its PC outside the code. */
-    private static SignalKernel aboutToGetLost() {
-        SignalKernel x = aboutToHalt();
-        x.poke(0, 11, JMP, 32);
+    private static SignalKernel aboutToGetLost(int pid) {
+        SignalKernel x = aboutToHalt(pid);
+        x.poke(pid, 11, JMP, 32);
         x.run(1);
         return x;
     }
 
     private interface Death {
-        void check(String how, SignalKernel before, SignalKernel after);
+        void check(String how, int pid, SignalKernel before, SignalKernel after);
     }
 
     private static void everyDeath(Death death) {
-        oneDeath("HALT", EdgesHeadTest::aboutToHalt, death);
-        oneDeath("too deep", EdgesHeadTest::aboutToSinkTooDeep, death);
-        oneDeath("a default action", EdgesHeadTest::aboutToBeTerminated, death);
-        oneDeath("a bad PC", EdgesHeadTest::aboutToGetLost, death);
-        SignalKernel x = aboutToBeKilled();
-        x.send(0, 9);
-        death.check("KILL", aboutToBeKilled(), x);
+        for (int pid = 0; pid < 4; pid++) {
+            oneDeath("HALT", pid, EdgesHeadTest::aboutToHalt, death);
+            oneDeath("too deep", pid, EdgesHeadTest::aboutToSinkTooDeep, death);
+            oneDeath("a default action", pid, EdgesHeadTest::aboutToBeTerminated, death);
+            oneDeath("a bad PC", pid, EdgesHeadTest::aboutToGetLost, death);
+            SignalKernel x = aboutToBeKilled(pid);
+            x.send(pid, 9);
+            death.check("KILL", pid, aboutToBeKilled(pid), x);
+        }
     }
 
-    private static void oneDeath(String how, Supplier<SignalKernel> scene, Death death) {
-        SignalKernel x = scene.get();
+    private static void oneDeath(String how, int pid, IntFunction<SignalKernel> scene, Death death) {
+        SignalKernel x = scene.apply(pid);
         x.run(1);
-        death.check(how, scene.get(), x);
+        death.check(how, pid, scene.apply(pid), x);
     }
 
     private static void dyingSetsStateAndStatus() {
         checks.sentence("sets the state and status;");
-        everyDeath((how, before, after) -> {
-            checks.due(how + ": alive before", before.state(0) == EXITED || before.state(0) == KILLED ? 1 : 0, 0);
-            checks.due(how + ": no status before", before.reg(0, R_STATUS), 0);
-            checks.due(how + ": state(0)", after.state(0), how.equals("HALT") ? EXITED : KILLED);
+        everyDeath((how, pid, before, after) -> {
+            checks.due(how + ": alive before", before.state(pid) == EXITED || before.state(pid) == KILLED ? 1 : 0, 0);
+            checks.due(how + ": no status before", before.reg(pid, R_STATUS), 0);
+            checks.due(how + ": state(" + pid + ")", after.state(pid), how.equals("HALT") ? EXITED : KILLED);
             int status = how.equals("HALT") ? 5 : how.equals("KILL") ? 9 : how.equals("a default action") ? 7 : 11;
-            checks.due(how + ": R_STATUS", after.reg(0, R_STATUS), status);
+            checks.due(how + ": R_STATUS", after.reg(pid, R_STATUS), status);
+            checks.othersAlike(how, pid, after, before);
         });
     }
 
     private static void dyingClearsPending() {
         checks.sentence("clears the pending set together with its serials;");
-        everyDeath((how, before, after) -> {
-            checks.due(how + ": 12 are pending before", Integer.bitCount(before.reg(0, R_PENDING) & 0x3fff), 12);
-            checks.due(how + ": R_PENDING", after.reg(0, R_PENDING), 0);
+        everyDeath((how, pid, before, after) -> {
+            checks.due(how + ": 12 are pending before", Integer.bitCount(before.reg(pid, R_PENDING) & 0x3fff), 12);
+            checks.due(how + ": R_PENDING", after.reg(pid, R_PENDING), 0);
             for (int sig = 1; sig <= 15; sig++) {
-                checks.due(how + ": pendingSerial(0, " + sig + ")", after.pendingSerial(0, sig), 0);
+                checks.due(how + ": pendingSerial(" + pid + ", " + sig + ")", after.pendingSerial(pid, sig), 0);
             }
         });
     }
 
     private static void dyingEmptiesTheQueue() {
         checks.sentence("empties the queue;");
-        everyDeath((how, before, after) -> {
-            checks.due(how + ": R_QUEUED before", before.reg(0, R_QUEUED), 8);
-            checks.due(how + ": R_QUEUED", after.reg(0, R_QUEUED), 0);
+        everyDeath((how, pid, before, after) -> {
+            checks.due(how + ": R_QUEUED before", before.reg(pid, R_QUEUED), 8);
+            checks.due(how + ": R_QUEUED", after.reg(pid, R_QUEUED), 0);
             for (int i = 0; i < 16; i++) {
-                checks.due(how + ": queued(0, " + i / 2 + ", " + i % 2 + ")", after.queued(0, i / 2, i % 2), 0);
+                checks.due(how + ": queued(" + pid + ", " + i / 2 + ", " + i % 2 + ")", after.queued(pid, i / 2, i % 2), 0);
             }
         });
     }
 
     private static void dyingEndsSleepAndStop() {
         checks.sentence("sets sleep-left to 0 and the stopped flag to false.");
-        everyDeath((how, before, after) -> {
-            checks.due(how + ": R_SLEEP before", before.reg(0, R_SLEEP), how.equals("KILL") ? 8 : 0);
-            checks.due(how + ": stopped before", before.state(0) == STOPPED ? 1 : 0, how.equals("KILL") ? 1 : 0);
-            checks.due(how + ": R_SLEEP", after.reg(0, R_SLEEP), 0);
-            checks.due(how + ": state(0) is no longer STOPPED", after.state(0) == STOPPED ? 1 : 0, 0);
+        everyDeath((how, pid, before, after) -> {
+            checks.due(how + ": R_SLEEP before", before.reg(pid, R_SLEEP), how.equals("KILL") ? 8 : 0);
+            checks.due(how + ": stopped before", before.state(pid) == STOPPED ? 1 : 0, how.equals("KILL") ? 1 : 0);
+            checks.due(how + ": R_SLEEP", after.reg(pid, R_SLEEP), 0);
+            checks.due(how + ": the state is no longer STOPPED", after.state(pid) == STOPPED ? 1 : 0, 0);
         });
-        sleepEndsInADefaultAction();
+        sleepEndsInADelivery();
     }
 
-    private static void sleepEndsInADefaultAction() {
+    private static void sleepEndsInADelivery() {
         SignalKernel x = Scenes.after(1, SLEEP, 9);
         checks.due("R_SLEEP before", x.reg(0, R_SLEEP), 9);
         x.send(0, 1);
         x.run(1);
-        checks.due("R_SLEEP", x.reg(0, R_SLEEP), 0);
+        checks.due("R_SLEEP after a default action", x.reg(0, R_SLEEP), 0);
         x = Scenes.deep(2, 2);
         x.poke(0, 0, SLEEP, 9);
         x.run(1);
         checks.due("R_SLEEP before", x.reg(0, R_SLEEP), 9);
         x.send(0, 1);
         x.run(1);
-        checks.due("R_SLEEP", x.reg(0, R_SLEEP), 0);
+        checks.due("R_SLEEP after one handler too many", x.reg(0, R_SLEEP), 0);
     }
 
     private static void dyingKeepsTheRest() {
         checks.sentence("Registers, depth and frames stay as they are.");
-        everyDeath((how, before, after) -> {
+        everyDeath((how, pid, before, after) -> {
             for (int which = R_PC; which <= R_DEPTH; which++) {
-                checks.due(how + ": reg(0, " + which + ")", after.reg(0, which), before.reg(0, which));
+                checks.due(how + ": reg(" + pid + ", " + which + ")", after.reg(pid, which), before.reg(pid, which));
             }
-            checks.due(how + ": R_DEPTH", after.reg(0, R_DEPTH), 1);
-            for (int field = 0; field < 4; field++) {
-                checks.due(how + ": frame(0, 0, " + field + ")", after.frame(0, 0, field), before.frame(0, 0, field));
-            }
-            checks.frame(after, 0, 2, 7, 8, 0);
+            checks.due(how + ": R_DEPTH", after.reg(pid, R_DEPTH), 1);
+            checks.frameOf(after, pid, 0, 2, 7, 8, 0);
         });
     }
 }

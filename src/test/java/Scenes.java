@@ -79,6 +79,30 @@ final class Scenes implements Numbers {
         return x;
     }
 
+    /**
+     * Four processes, each this many handlers deep; at each depth it spins at cell 4 * depth + 2
+     * with A and B of its own: 40 * pid + depth, and the same below 0.
+     */
+    static SignalKernel nested(int depth) {
+        SignalKernel x = new SignalKernel(4, 4);
+        for (int pid = 0; pid < 4; pid++) {
+            for (int level = 0; level <= 4; level++) {
+                Checks.load(x, pid, 4 * level, LDA, 40 * pid + level, LDB, -40 * pid - level, JMP, 4 * level + 2);
+            }
+            for (int level = 0; level < 4; level++) {
+                x.setAction(pid, 28 + level, 4 * level + 4, 0);
+            }
+        }
+        x.run(2);
+        for (int i = 0; i < 4 * depth; i++) {
+            x.send(i % 4, 28 + i / 4);
+            if (i % 4 == 3) {
+                x.run(3);
+            }
+        }
+        return x;
+    }
+
     /** A kernel of one process that has logged this many events, the values 1, 2, 3 and so on. */
     static SignalKernel logged(int events) {
         SignalKernel x = new SignalKernel(1, 1);
